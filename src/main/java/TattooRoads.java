@@ -1,3 +1,9 @@
+/**
+ * A roadless land in which the only maps are on people: ../shared/DOC.md says what each call answers.
+ *
+ * What is thought goes on in a second Land that is laid over at each call, and what is kept in a third one:
+ * so no call makes an object, and a run stays within its room.
+ */
 public final class TattooRoads {
     public static final int BAD = -1000000001, NO = -1000000002, FULL = -1000000003, NONE = -1000000005, NOTHING = -1000000011, KIND = -1000000012, INDEX = -1000000013, SIZE = -1000000014;
 

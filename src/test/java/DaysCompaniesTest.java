@@ -13,6 +13,7 @@ public final class DaysCompaniesTest {
         theWayIsDrawn();
         oneIsLedByThoseWhoAreThere();
         whoLearns();
+        whatWasLearntStays();
         whatADayNeeds();
         whoLoses();
         waysSlip();
@@ -159,6 +160,26 @@ public final class DaysCompaniesTest {
             due.is("its skin, kind " + kind, learns[kind], x.told(0, 3));
             due.is("INKED, kind " + kind, learns[kind], x.land(1));
         }
+    }
+
+    private static void whatWasLearntStays() {
+        TattooRoads x = restless();
+        x.one(ONE, 0, 10);
+        x.one(GUIDE, 0, 10);
+        for (int way = 0; way < 4; way++) {
+            x.way(0, 1);
+            x.ink(1, way);
+        }
+        x.set(1, 1, 0);
+        for (int day = 0; day < 8; day++) {
+            int before = x.told(0, 3);
+            x.set(0, 1, 0);
+            x.set(1, 1, 0);
+            x.days(1);
+            due.is("what it had it has, day " + day, before, before & x.told(0, 3));
+            due.is("INKED counts each, day " + day, Integer.bitCount(x.told(0, 3)), x.land(1));
+        }
+        due.is("it learnt several", 1, x.land(1) > 1 ? 1 : 0);
     }
 
     private static void whatADayNeeds() {
@@ -338,6 +359,13 @@ public final class DaysCompaniesTest {
         due.is("reach of nobody", BAD, x.reach(3));
         due.is("reach of -1", BAD, x.reach(-1));
         due.is("nobody moved", 2, x.told(0, 1));
+        TattooRoads longest = new TattooRoads();
+        longest.one(ONE, 9, 0);
+        for (int i = 0; i < 9; i++) {
+            longest.way(i, i + 1);
+            longest.ink(0, i);
+        }
+        due.is("nine ways to the last", 0x3FF, longest.reach(0));
     }
 
     private static void companies() {
@@ -363,6 +391,7 @@ public final class DaysCompaniesTest {
         x.ink(3, 1);
         x.ink(3, 2);
         due.is("one who is elsewhere does not help", 0b011, x.company(0, 3, 0));
+        due.is("the least of them alone", 0b001, x.company(0, 1, 0));
         x.set(3, 1, 0);
         due.is("one alone", 0b1000, x.company(0, 3, 0));
         due.is("how many", 1, x.company(0, 3, 1));

@@ -106,6 +106,11 @@ public final class RowsImagesTest {
         due.is("wrong and one too many", 2, x.check(2));
         tellAll(x, 1, 1, 2, 0);
         due.is("none of these waits any more", 0, x.check(2));
+        due.is("nor now: all are missing", 1, x.check(2));
+        tellAll(x, 1);
+        due.is("nor behind one that was told", 2, x.check(2));
+        tellAll(x, 1, 1);
+        due.is("nor behind two", 3, x.check(2));
     }
 
     private static void checkingByTheImage() {

@@ -171,6 +171,8 @@ public final class SheetsSlotsTest {
         due.is("a number for nobody, behind no numbers", 5, x.reads(1));
         fill(x, 2, 0, 0, 2);
         due.is("a short row", NONE, x.reads(2));
+        x.mark(2, 0, 1);
+        due.is("the very first is not", 0, x.reads(2));
     }
 
     private static void copying() {
