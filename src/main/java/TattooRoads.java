@@ -339,7 +339,7 @@ public final class TattooRoads {
             thought.take(now);
             thought.skins[one] |= 1 << way;
             thought.passDays(n);
-            if (best == NONE || thought.walked > most) {
+            if (thought.walked > most) {
                 best = way;
                 most = thought.walked;
             }
@@ -351,14 +351,14 @@ public final class TattooRoads {
         if (!isOne(one) || n < 1 || n > LONGEST_THOUGHT || what < 0 || what > 1) {
             return BAD;
         }
-        int best = NONE;
-        int most = NONE;
+        int best = 0;
+        int most = -1;
         for (int kind = 0; kind < KINDS; kind++) {
             thought.take(now);
             thought.kinds[one] = kind;
             thought.passDays(n);
             int borne = thought.waysBorne();
-            if (best == NONE || borne > most) {
+            if (borne > most) {
                 best = kind;
                 most = borne;
             }

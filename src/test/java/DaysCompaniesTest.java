@@ -465,5 +465,22 @@ public final class DaysCompaniesTest {
         x.ink(2, 3);
         x.ink(2, 2);
         due.is("the others have them too", 0, x.dear(0));
+        x.keep();
+        x.one(ONE, 0, 0);
+        x.way(0, 1);
+        x.way(0, 1);
+        x.ink(3, 4);
+        due.is("one way each: the least", 0, x.dear(0));
+        x.ink(3, 5);
+        due.is("one more has two", 3, x.dear(0));
+        x.back();
+        due.is("one who is gone is not missed", 0, x.dear(0));
+        TattooRoads all = new TattooRoads();
+        all.way(0, 1);
+        for (int i = 0; i < 8; i++) {
+            all.one(ONE, 0, 0);
+        }
+        all.ink(7, 0);
+        due.is("the last of eight", 7, all.dear(0));
     }
 }

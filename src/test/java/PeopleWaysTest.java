@@ -278,6 +278,11 @@ public final class PeopleWaysTest {
                 due.is("about " + way + " " + what, told[way][what], x.about(way, what));
             }
         }
+        for (int i = 3; i < 8; i++) {
+            x.one(ONE, 0, 0);
+        }
+        x.ink(7, 1);
+        due.is("eight people, the last has it", 0b10000101, x.about(1, 3));
         due.is("about what -1", BAD, x.about(0, -1));
         due.is("about what 4", BAD, x.about(0, 4));
         due.is("about no way", BAD, x.about(2, 0));
