@@ -284,6 +284,22 @@ public final class EdgesDaysTest extends Edges {
         is(0, x.land(1));
     }
 
+    static void p16_whatItHadItHasBesides() {
+        TattooRoads x = people(restless(), 2, 0);
+        x.way(0, 1);
+        x.way(2, 3);
+        inked(inked(x, 0, 1), 1, 0);
+        int seed = 0;
+        while (new Draws(Draws.after(seed, 1)).next() % 2 != 0) {
+            seed++;
+        }
+        x.seed(seed);
+        x.days(1);
+        is(1, x.told(0, 1));
+        is(3, x.told(0, 3));
+        is(1, x.land(1));
+    }
+
     static void p16_whoDoesNotGoIsNotInked() {
         TattooRoads x = ways(people(people(restless(), 1, 2), 1, 2), 1);
         inked(x, 1, 0);
@@ -759,6 +775,18 @@ public final class EdgesDaysTest extends Edges {
         is(NONE, x.company(0, 1, 0));
         x.set(1, 1, 0);
         is(2, x.company(0, 1, 0));
+    }
+
+    static void p20_theFirstAlone() {
+        TattooRoads x = inked(ways(people(fresh(), 8, 0), 1), 0, 0);
+        is(1, x.company(0, 1, 0));
+        is(1, x.company(0, 1, 1));
+    }
+
+    static void p20_theLastAlone() {
+        TattooRoads x = inked(ways(people(fresh(), 8, 0), 1), 7, 0);
+        is(128, x.company(0, 1, 0));
+        is(1, x.company(0, 1, 1));
     }
 
     static void p20_ofSeveralTheLeast() {

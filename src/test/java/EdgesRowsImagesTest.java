@@ -165,6 +165,19 @@ public final class EdgesRowsImagesTest extends Edges {
         is(60, x.check(30));
     }
 
+    static void p45_missingWhereTheSameWaitedBefore() {
+        TattooRoads x = kept();
+        tell(x, 1, 1, 2, 1);
+        is(0, x.check(2));
+        is(1, x.check(2));
+        tell(x, 1);
+        is(2, x.check(2));
+        tell(x, 1, 1);
+        is(3, x.check(2));
+        tell(x, 1, 1, 2);
+        is(4, x.check(2));
+    }
+
     static void p45_theSecondIsMissing() {
         TattooRoads x = kept();
         tell(x, 1);
@@ -425,6 +438,21 @@ public final class EdgesRowsImagesTest extends Edges {
         is(6, x.about(0, 1));
     }
 
+    static void p47_waysThatTouchTheLastPlace() {
+        TattooRoads x = fresh();
+        x.one(CHILD, 9, 0);
+        x.way(9, 0);
+        inked(x, 0, 0);
+        x.keep();
+        x.back();
+        is(1, x.told(0, 4));
+        is(0b1000000001, x.reach(0));
+        x.way(9, 1);
+        x.ink(0, 1);
+        x.back();
+        is(1, x.told(0, 4));
+    }
+
     static void p47_wandersAndSlips() {
         TattooRoads x = fresh();
         x.rule(0, 11);
@@ -473,6 +501,19 @@ public final class EdgesRowsImagesTest extends Edges {
         is(NONE, x.why(0));
         is(1, x.fee());
         is(BAD, x.textTold(1, 0));
+    }
+
+    static void p47_theTextOfEachKey() {
+        String[] keys = {"urge", "fee", "fine"};
+        for (int key = 0; key < 3; key++) {
+            TattooRoads x = fresh();
+            Tapes.tell(x, keys[key] + " 1");
+            x.keep();
+            Tapes.tell(x, keys[key] + " 2");
+            is(1, x.why(key));
+            x.back();
+            is(0, x.why(key));
+        }
     }
 
     static void p47_otherTextsCameInTheirStead() {

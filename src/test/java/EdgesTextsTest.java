@@ -201,6 +201,22 @@ public final class EdgesTextsTest extends Edges {
         is(1, x.textTold(0, 1));
     }
 
+    static void p32_behindAFaultAnotherTextStands() {
+        String[] faults = {"fee w", "fee 12345", "fee", "1", "fee (", "fee ;", "fee1"};
+        for (String fault : faults) {
+            TattooRoads x = fresh();
+            is(1, Tapes.tell(x, fault) <= -100 ? 1 : 0);
+            is(0, Tapes.tell(x, "fee 7"));
+            is(7, x.fee());
+        }
+    }
+
+    static void p32_bothSidesAreWorkedOut() {
+        gives(0, "0&5/0");
+        gives(1, "1|5/0");
+        gives(0, "(5/0)&1");
+    }
+
     static void p32_anEmptyTape() {
         is(-100, fresh().text());
     }
@@ -264,12 +280,17 @@ public final class EdgesTextsTest extends Edges {
         faultAt(0, "urg 1");
         faultAt(0, "fin 1");
         faultAt(0, "Fee 1");
+        faultAt(0, "zee 1");
+        faultAt(0, "ffe 1");
+        faultAt(0, "fez 1");
         faultAt(2, "  fo 1");
     }
 
     static void p32_aKeyAndALetterRightBehindAreOneWord() {
         faultAt(0, "feek");
         faultAt(0, "urgew");
+        faultAt(0, "feea 1");
+        faultAt(0, "feez 1");
     }
 
     static void p32_aNumberRightBehindTheKeyNeedsABlank() {

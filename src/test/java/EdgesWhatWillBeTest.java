@@ -149,6 +149,14 @@ public final class EdgesWhatWillBeTest extends Edges {
         is(6, x.behind(1, 4));
     }
 
+    static void p23_fromTheLastPlace() {
+        TattooRoads x = people(restless(), 1, 9);
+        x.way(8, 9);
+        inked(x, 0, 0);
+        is(8, x.behind(1, 4));
+        is(9, x.behind(2, 4));
+    }
+
     static void p23_byTheUrgeThatCounts() {
         TattooRoads x = walker();
         Tapes.tell(x, "urge (a<2)*100");
@@ -329,6 +337,25 @@ public final class EdgesWhatWillBeTest extends Edges {
         is(0, x.inks(0, 3, 0));
         is(3, x.inks(0, 3, 1));
         is(1, x.told(0, 3));
+    }
+
+    static void p25_besideWhatItHas() {
+        // by the first draws of ways, 0 on one day and 1 on the next, it comes from PLACE 0 to PLACE 2
+        int seed = 0;
+        while (wayDrawn(seed, 0) != 0 || wayDrawn(seed, 3) != 1) {
+            seed++;
+        }
+        TattooRoads x = people(restless(), 1, 0);
+        x.way(0, 1);
+        x.way(1, 2);
+        inked(x, 0, 0).seed(seed);
+        is(1, x.inks(0, 2, 0));
+        is(2, x.inks(0, 2, 1));
+    }
+
+    /** Which of two WAYS the one is drawn, so many draws having gone ahead of its day. */
+    private static int wayDrawn(int seed, int drawsAhead) {
+        return new Draws(Draws.after(seed, drawsAhead + 1)).next() % 2;
     }
 
     static void p25_walkedIsAllThatWas() {

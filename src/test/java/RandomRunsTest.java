@@ -51,6 +51,9 @@ public final class RandomRunsTest {
         if (random.nextInt(3) > 0) {
             settle();
         }
+        if (random.nextInt(8) == 0) {
+            comeNearTheLastDay();
+        }
         while (made < 480 && wrong == 0) {
             call(drawnCall());
         }
@@ -65,6 +68,17 @@ public final class RandomRunsTest {
         ask(12, 1 + random.nextInt(8), 0, 0, 0, 0);
         ask(11, 0, random.nextInt(101), 0, 0, 0);
         ask(11, 1, random.nextInt(101), 0, 0, 0);
+    }
+
+    private void comeNearTheLastDay() {
+        for (int i = 0; i < 99; i++) {
+            ask(14, 100, 0, 0, 0, 0);
+        }
+        ask(14, 50 + random.nextInt(50), 0, 0, 0, 0);
+        ask(44, 0, 0, 0, 0, 0);
+        for (int one = 0; one < reading.now.people.size(); one++) {
+            ask(5, one, 2, random.nextInt(60), 0, 0);
+        }
     }
 
     private int drawnCall() {
