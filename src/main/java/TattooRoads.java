@@ -1191,7 +1191,7 @@ public final class TattooRoads {
                 return start;
             }
             step();
-            return level(OR, 0, 0) && sort == END ? NONE : start;
+            return part(OR, 0, 0) && sort == END ? NONE : start;
         }
 
         private void step() {
@@ -1225,17 +1225,18 @@ public final class TattooRoads {
             return sign >= '0' && sign <= '9' ? DIGITS : SIGN;
         }
 
-        private boolean level(int rank, int parens, int nots) {
-            if (rank >= PIECE) {
-                return piece(parens, nots);
-            }
-            if (!level(rank + 1, parens, nots)) {
+        private boolean part(int rank, int parens, int nots) {
+            return rank < PIECE ? chain(rank, parens, nots) : piece(parens, nots);
+        }
+
+        private boolean chain(int rank, int parens, int nots) {
+            if (!part(rank + 1, parens, nots)) {
                 return false;
             }
             for (int i = 0; i < length && sort == SIGN && joins(rank, bytes[start]); i++) {
                 int sign = bytes[start];
                 step();
-                if (!level(rank + 1, parens, nots)) {
+                if (!part(rank + 1, parens, nots)) {
                     return false;
                 }
                 put(SIGN_CODE + sign);
@@ -1255,13 +1256,13 @@ public final class TattooRoads {
             }
             if (bytes[start] == '!' && nots < DEEPEST) {
                 step();
-                boolean right = piece(parens, nots + 1);
+                boolean right = part(PIECE, parens, nots + 1);
                 put(SIGN_CODE + '!');
                 return right;
             }
             if (bytes[start] == '(' && parens < DEEPEST) {
                 step();
-                if (!level(OR, parens + 1, nots) || sort != SIGN || bytes[start] != ')') {
+                if (!part(OR, parens + 1, nots) || sort != SIGN || bytes[start] != ')') {
                     return false;
                 }
                 step();
